@@ -244,6 +244,38 @@ public final class PromiseTest {
         dueRow("2 made up for", x, 0, 5, 7, 5);
     }
 
+    private static void promise2MarkPageMadeUpFor() {
+        SideLinkTree x = withRange(1, 80);
+        due("2 charge", x.charge(64 + 63), true);
+        due("2 a page of marks lacks a word", x.add(0, 0, 0, 81, 0), -2);
+        dueRow("2 a page of marks lacks a word", x, 1, 5, 5, 5);
+        dueRow("2 a page of marks lacks a word", x, 2, 2);
+        for (int place = 1; place <= 10; place++) {
+            int words = x.count(2);
+            due("2 below that page", x.add(0, 0, 0, 26, place), 1);
+            due("2 words below that page", x.count(2), words + (place == 6 ? 87 : 11));
+        }
+        dueRow("2 a page of marks is made up for", x, 1, 5, 6, 5);
+        due("2 charge", x.charge(64), true);
+        due("2 a split with its mark cut", x.add(0, 0, 0, 26, 11), -2);
+        dueRow("2 no mark", x, 1, 5, 6, 5);
+        due("2 one page more", x.level(0, 0), 18);
+        due("2 all entries", x.count(3), 90);
+    }
+
+    private static void promise2SplitInTheMiddle() {
+        SideLinkTree x = withRange(1, 30);
+        for (int place = 1; place <= 6; place++) {
+            due("2 in the middle", x.add(0, 0, 0, 13, place), 1);
+        }
+        dueRow("2 split in the middle", x, 0, 5, 5, 5, 6, 5, 10);
+        dueRow("2 split in the middle", x, 1, 6);
+        due("2 right of the middle", x.has(0, 0, 0, 30, 0), true);
+        x.seek(0, 0, 0, 15);
+        due("2 on from the middle", x.next() && x.next(), true);
+        dueHand("2 on from the middle", x, 16, 0);
+    }
+
     private static void promise3Remove() {
         SideLinkTree x = withRange(1, 16);
         int words = x.count(2);
@@ -588,6 +620,8 @@ public final class PromiseTest {
         promise2CutRoot();
         promise2CutPage();
         promise2MadeUpFor();
+        promise2MarkPageMadeUpFor();
+        promise2SplitInTheMiddle();
         promise3Remove();
         promise3MakesUpFor();
         promise4Has();

@@ -487,15 +487,27 @@ public final class WordModelTest {
         }
     }
 
+    /** Around these a cut falls between the steps of a split, in level 0 or in one above. */
+    private static final int[] STEPS = {0, 1, 10, 11, 62, 63, 64, 74, 75, 126, 127, 128, 144, 145, 208, 209};
+
+    private static int pickCharge() {
+        switch (pick(8)) {
+            case 0: return pick(1200) - 100;
+            case 1: return pick(90);
+            case 2: return pick(250);
+            default: return STEPS[pick(STEPS.length)];
+        }
+    }
+
     private static void randomRun(int number) {
         int style = number % 5;
-        int cutEvery = new int[] {0, 3, 8, 20}[pick(4)];
+        int cutEvery = new int[] {0, 2, 3, 8, 20}[pick(5)];
         int removes = new int[] {0, 5, 25, 45}[pick(4)];
         int clears = pick(6) == 0 ? 100 : 0;
         Pair p = new Pair("random run " + number);
         for (int i = 0; p.left() > 130; i++) {
             if (cutEvery > 0 && pick(cutEvery) == 0) {
-                p.charge(pick(12) == 0 ? pick(1200) - 100 : pick(pick(2) == 0 ? 90 : 250));
+                p.charge(pickCharge());
             }
             if (clears > 0 && pick(clears) == 0) {
                 p.clear();
