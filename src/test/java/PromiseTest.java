@@ -45,13 +45,13 @@ public final class PromiseTest {
         x.first();
         for (int i = from; i <= to; i++) {
             due(what + ", next to " + i, x.next(), true);
-            dueHand(what + ", next", x, i, 0);
+            due(what + ", next", x.word(3), i);
         }
         due(what + ", next at the end", x.next(), false);
         x.last();
         for (int i = to; i >= from; i--) {
             due(what + ", back to " + i, x.back(), true);
-            dueHand(what + ", back", x, i, 0);
+            due(what + ", back", x.word(3), i);
         }
         due(what + ", back at the start", x.back(), false);
     }
