@@ -5,7 +5,10 @@ import java.lang.reflect.Modifier;
 import java.util.Set;
 import java.util.TreeSet;
 
-/** The members of the class that can be seen from outside are those of the document and no others. */
+/**
+ * The members of the class that can be seen from outside are those of the document and no others; the
+ * classes inside are hidden and static, and no static field can be set.
+ */
 public final class FaceTest {
     private static final String[] FACE = {
         "public SideLinkTree()",
@@ -23,6 +26,35 @@ public final class FaceTest {
         "public boolean SideLinkTree.charge(int)",
         "public int SideLinkTree.count(int)",
         "public int SideLinkTree.level(int,int)"};
+
+    private static boolean isHidden(int modifiers) {
+        return !Modifier.isPublic(modifiers) && !Modifier.isProtected(modifiers);
+    }
+
+    private static boolean insideIsAsDue() {
+        boolean asDue = true;
+        for (Class<?> inside : SideLinkTree.class.getDeclaredClasses()) {
+            if (!isHidden(inside.getModifiers()) || !Modifier.isStatic(inside.getModifiers())) {
+                System.out.println("is not hidden and static: " + inside);
+                asDue = false;
+            }
+        }
+        for (Field f : SideLinkTree.class.getDeclaredFields()) {
+            if (Modifier.isStatic(f.getModifiers()) && !Modifier.isFinal(f.getModifiers())) {
+                System.out.println("is static and not final: " + f);
+                asDue = false;
+            }
+        }
+        for (Method m : SideLinkTree.class.getDeclaredMethods()) {
+            for (Method other : SideLinkTree.class.getMethods()) {
+                if (Modifier.isPrivate(m.getModifiers()) && m.getName().equals(other.getName())) {
+                    System.out.println("bears the name of a public one: " + m);
+                    asDue = false;
+                }
+            }
+        }
+        return asDue;
+    }
 
     public static void main(String[] args) {
         Set<String> seen = new TreeSet<>();
@@ -42,10 +74,13 @@ public final class FaceTest {
             }
         }
         Set<String> due = new TreeSet<>(Set.of(FACE));
-        boolean isFinal = Modifier.isFinal(SideLinkTree.class.getModifiers());
-        if (!seen.equals(due) || !isFinal) {
-            System.out.println("seen: " + seen + ", final: " + isFinal);
-            System.out.println("due:  " + due + ", final: true");
+        String kind = Modifier.toString(SideLinkTree.class.getModifiers());
+        if (!seen.equals(due) || !kind.equals("public final")) {
+            System.out.println("seen: " + kind + " with " + seen);
+            System.out.println("due:  public final with " + due);
+            System.exit(1);
+        }
+        if (!insideIsAsDue()) {
             System.exit(1);
         }
         System.out.println("the face is as due");

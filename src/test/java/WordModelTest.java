@@ -572,10 +572,70 @@ public final class WordModelTest {
         }
     }
 
+    /** Two adds that are cut, one behind the other: the second falls on what the first left undone. */
+    private static void twoCuts(int entries, boolean falling, int first, int second) {
+        Pair p = rowOf((falling ? "falling " : "rising ") + entries + ", cut at " + first + " and " + second,
+            entries, falling);
+        p.charge(first);
+        p.add(ofRow(entries, falling));
+        // These fill a page whose next mark comes into the left half of the page of marks that was split.
+        long d = ofRow(entries * (falling ? 7 : 3) / 8, falling).words[3];
+        for (int place = 1; place <= 5; place++) {
+            p.add(new Key(0, 0, 0, d, place));
+        }
+        p.charge(second);
+        p.add(new Key(0, 0, 0, d, 6));
+        p.charge(second);
+        p.add(ofRow(entries, falling));
+        p.counts();
+        p.levels();
+        p.charge(999);
+        p.add(new Key(0, 0, 0, d, 7));
+        p.remove(ofRow(entries - 7, falling));
+        p.add(ofRow(entries - 7, falling));
+        p.counts();
+        p.through();
+    }
+
+    /** Every split of a long row is cut at the same word, so that nothing above is as it would be. */
+    private static void eachSplitCut(int charge, int every, boolean falling) {
+        Pair p = new Pair((falling ? "falling" : "rising") + ", every " + every + "th add cut at " + charge);
+        for (int i = 0; p.left() > 150; i++) {
+            if (i % every == 0) {
+                p.charge(charge);
+            }
+            if (p.add(ofRow(i, falling)) == -2 && every > 1) {
+                p.add(ofRow(i, falling));
+            }
+        }
+        p.counts();
+        p.levels();
+        for (int i = 0; p.left() > 4; i += 3) {
+            p.has(ofRow(i, falling));
+        }
+    }
+
+    private static void severalCuts() {
+        int[] rows = {10, 15, 55, 80};
+        for (int first : STEPS) {
+            for (int second : STEPS) {
+                for (int entries : rows) {
+                    twoCuts(entries, false, first, second);
+                    twoCuts(entries, true, first, second);
+                }
+            }
+            for (int every = 1; every <= 8; every++) {
+                eachSplitCut(first, every, false);
+                eachSplitCut(first, every, true);
+            }
+        }
+    }
+
     public static void main(String[] args) {
         for (int number = 0; number < 3000; number++) {
             randomRun(number);
         }
+        severalCuts();
         // The last of these fill a root, a page, a root of marks, and a page of marks.
         int[] rows = {9, 10, 15, 55, 80};
         for (int entries : rows) {
