@@ -4,9 +4,9 @@ import java.nio.file.Files;
 import java.nio.file.Path;
 
 /**
- * The whole document once more, from its first line: what of a sentence no other test would notice if it
- * were broken, with the sentence quoted. At the end each sentence of the document is looked up in the
- * tests: it must be quoted in one of them, or stand among those of which nothing can be asked.
+ * The whole document once more, from its first line: what of a sentence the other tests that quote leave
+ * out, with the sentence quoted. At the end each sentence of the document is looked up in the tests: it
+ * must be quoted in one of them, or stand among those of which nothing can be asked.
  */
 public final class DocumentTest extends Sentences {
 
@@ -110,12 +110,14 @@ public final class DocumentTest extends Sentences {
                 due("has place " + place, has(x, 26, place), place < 6 || whole);
             }
             dueGoneThrough(x, whole ? 86 : 85);
-            for (int place = 1; place <= 6; place++) {
-                due("a split below that page again", add(x, 41, place), whole && place == 1 ? -2 : 1);
+            due("charge", x.charge(999), true);
+            for (int place = 1; place <= 5; place++) {
+                due("below that page again", add(x, 41, place), 1);
             }
-            if (!whole) {
-                due("its mark comes", row(x, 1) + ", " + row(x, 2), n < 64 + 12 ? "5 6 5, 2" : "5 7 5, 2");
-            }
+            words = x.count(2);
+            due("a split below that page", add(x, 41, 6), 1);
+            due("its words, cut behind " + n, x.count(2), words + 64 + (n < 64 + 1 ? 12 : 11) + 11);
+            due("its mark comes", row(x, 1) + ", " + row(x, 2), n < 64 + 12 ? "5 6 5, 2" : "5 7 5, 2");
         }
     }
 
@@ -305,6 +307,23 @@ public final class DocumentTest extends Sentences {
         }
     }
 
+    private static void eachCharge() {
+        by("After charge(n) n more words can be set; the next one is not, nor any more of that call; what was set "
+            + "stays, pages that were taken too, and there is no charge any more.");
+        for (int n = 0; n <= 999; n++) {
+            SideLinkTree x = new SideLinkTree();
+            due("charge " + n, x.charge(n), true);
+            x.clear();
+            int answer = 1;
+            for (int i = 1; i <= 100 && answer == 1; i++) {
+                answer = add(x, i, 0);
+            }
+            due("cut in the end, charge " + n, answer, -2);
+            due("words, charge " + n, x.count(2), 3 + 3 + n);
+            due("no charge any more", add(x, 0, 0), 1);
+        }
+    }
+
     private static void cursorOverASplitThatIsCut() {
         by("The CURSOR stands before or behind all, or at a place between entries; going on, it comes to the next "
             + "entry of the tree as it is then.");
@@ -370,6 +389,7 @@ public final class DocumentTest extends Sentences {
         lackingPageHasFive();
         lackingPageOfMarksHasFive();
         pageAndPageOfMarks();
+        eachCharge();
         cursorOverASplitThatIsCut();
         eachSentenceIsQuoted();
         end();

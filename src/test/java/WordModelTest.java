@@ -488,7 +488,7 @@ public final class WordModelTest {
     }
 
     /** Around these a cut falls between the steps of a split, in level 0 or in one above. */
-    private static final int[] STEPS = {0, 1, 10, 11, 62, 63, 64, 74, 75, 126, 127, 128, 144, 145, 208, 209};
+    private static final int[] STEPS = {0, 1, 10, 11, 62, 63, 64, 65, 74, 75, 126, 127, 128, 144, 145, 208, 209};
 
     private static int pickCharge() {
         switch (pick(8)) {
@@ -539,8 +539,14 @@ public final class WordModelTest {
         p.through();
     }
 
+    /** The keys of a row go over the change of the sign. */
     private static Key ofRow(int i, boolean falling) {
-        return new Key(0, 0, 0, falling ? 1000 - i : i, 0);
+        return ofRow(i, falling, 0);
+    }
+
+    private static Key ofRow(int i, boolean falling, int place) {
+        long w = falling ? Long.MIN_VALUE + 60 - i : Long.MAX_VALUE - 60 + i;
+        return new Key(w, 0, 0, w, place);
     }
 
     private static Pair rowOf(String name, int entries, boolean falling) {
@@ -565,8 +571,8 @@ public final class WordModelTest {
             p.levels();
             p.has(key);
             p.add(key);
-            p.add(new Key(0, 0, 0, key.words[3], 1));
-            p.add(new Key(0, 0, 0, ofRow(entries - 8, falling).words[3], 7));
+            p.add(ofRow(entries, falling, 1));
+            p.add(ofRow(entries - 8, falling, 7));
             p.counts();
             p.through();
         }
@@ -578,22 +584,26 @@ public final class WordModelTest {
             entries, falling);
         p.charge(first);
         p.add(ofRow(entries, falling));
-        // These fill a page whose next mark comes into the left half of the page of marks that was split.
-        long d = ofRow(entries * (falling ? 7 : 3) / 8, falling).words[3];
+        // Two pages whose next marks come into the left half of the page of marks that was split.
+        int one = entries * (falling ? 7 : 3) / 8;
+        int other = Math.max(0, one - (falling ? 8 : -8));
         for (int place = 1; place <= 5; place++) {
-            p.add(new Key(0, 0, 0, d, place));
+            p.add(ofRow(one, falling, place));
         }
         p.charge(second);
-        p.add(new Key(0, 0, 0, d, 6));
+        p.add(ofRow(one, falling, 6));
         p.charge(second);
         p.add(ofRow(entries, falling));
         p.counts();
         p.levels();
         p.charge(999);
-        p.add(new Key(0, 0, 0, d, 7));
+        for (int place = 1; place <= 6; place++) {
+            p.add(ofRow(other, falling, place));
+        }
         p.remove(ofRow(entries - 7, falling));
         p.add(ofRow(entries - 7, falling));
         p.counts();
+        p.levels();
         p.through();
     }
 
